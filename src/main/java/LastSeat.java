@@ -20,6 +20,8 @@ public final class LastSeat {
     private static final int MOST_HOSTS = 99;
     private static final int LAST_ROUND = 400;
     private static final int MOST_AT_ONCE = 60;
+    /** More than all DISHES can cost. */
+    private static final int NO_LIMIT = 9999;
 
     private static final int FAULT_TOKEN = 1;
     private static final int FAULT_NUMBER = 2;
@@ -59,7 +61,6 @@ public final class LastSeat {
     private final HallText hallText;
     private final Acts acts;
     private final Seer seer;
-    private final Dice dice;
     private final Ledger ledger;
     private final Saying saying;
     private final SayingText sayingText;
@@ -75,7 +76,6 @@ public final class LastSeat {
         hallText = new HallText(reader);
         acts = new Acts(hallNow);
         seer = new Seer(feast);
-        dice = new Dice(feast);
         ledger = new Ledger(reader, hallNow);
         saying = new Saying();
         sayingText = new SayingText(reader, hallNow);
@@ -356,11 +356,11 @@ public final class LastSeat {
         if (feast.round < LAST_ROUND) {
             acts.keep(feast);
         }
-        return dice.drawRounds(feast, n, seed);
+        return feast.goDrawn(n, seed);
     }
 
     public int odds(int g, int n, int seed) {
-        return hallNow.hasGuest(g) && n >= 1 && n <= 30 ? dice.seedsThatMakeHost(g, n, seed) : NONE;
+        return hallNow.hasGuest(g) && n >= 1 && n <= 30 ? seer.seedsThatMakeHost(g, n, seed) : NONE;
     }
 
     public int book(int lives) {
@@ -903,6 +903,8 @@ public final class LastSeat {
         int over;
         int host;
         int paidInAll;
+        /** What the draws have come to: each ROUNDS DRAWN set it anew, so it is no part of what is kept. */
+        int lot;
 
         Feast(Hall hall) {
             this.hall = hall;
@@ -1086,6 +1088,37 @@ public final class LastSeat {
                 }
             }
             return NONE;
+        }
+
+        /** How many of n ROUNDS DRAWN went by. */
+        int goDrawn(int n, int seed) {
+            lot = seed;
+            int went = 0;
+            while (went < n && round < LAST_ROUND) {
+                drawDeeds();
+                goRound(NONE);
+                went++;
+            }
+            return went;
+        }
+
+        private void drawDeeds() {
+            if (hall.dishes > 0 && draw(2) == 0) {
+                bring(draw(hall.dishes));
+            }
+            for (int g = 0; g < hall.guests; g++) {
+                int wish = draw(8);
+                if (wish == 0 && whyNotSit(g) == 0) {
+                    sitDown(g);
+                } else if (wish == 1 && isSeated(g)) {
+                    standUp(g);
+                }
+            }
+        }
+
+        private int draw(int n) {
+            lot = lot * 1103515245 + 12345;
+            return n > 0 ? (lot >>> 8) % n : 0;
         }
     }
 
@@ -1302,7 +1335,7 @@ public final class LastSeat {
 
         /** Without GUESTS there is no limit. */
         private int fewestCoinsOfPayers() {
-            int fewest = Integer.MAX_VALUE;
+            int fewest = NO_LIMIT;
             for (int g = 0; g < hall.guests; g++) {
                 fewest = Math.min(fewest, feast.coins[hall.payer[g]]);
             }
@@ -1347,55 +1380,12 @@ public final class LastSeat {
             }
             return best;
         }
-    }
-
-    /** ROUNDS DRAWN by a seed. */
-    private static final class Dice {
-        final Feast feast;
-        final Feast trial;
-        int x;
-
-        Dice(Feast feast) {
-            this.feast = feast;
-            trial = new Feast(feast.hall);
-        }
-
-        private int draw(int n) {
-            x = x * 1103515245 + 12345;
-            return n > 0 ? (x >>> 8) % n : 0;
-        }
-
-        /** How many of n ROUNDS went by. */
-        int drawRounds(Feast on, int n, int seed) {
-            x = seed;
-            int went = 0;
-            while (went < n && on.round < LAST_ROUND) {
-                drawRound(on);
-                went++;
-            }
-            return went;
-        }
-
-        private void drawRound(Feast on) {
-            if (on.hall.dishes > 0 && draw(2) == 0) {
-                on.bring(draw(on.hall.dishes));
-            }
-            for (int g = 0; g < on.hall.guests; g++) {
-                int wish = draw(8);
-                if (wish == 0 && on.whyNotSit(g) == 0) {
-                    on.sitDown(g);
-                } else if (wish == 1 && on.isSeated(g)) {
-                    on.standUp(g);
-                }
-            }
-            on.goRound(NONE);
-        }
 
         int seedsThatMakeHost(int g, int n, int seed) {
             int seeds = 0;
             for (int i = 0; i < n; i++) {
                 trial.copyFrom(feast);
-                drawRounds(trial, 20, seed + i);
+                trial.goDrawn(20, seed + i);
                 if (trial.hosted[g] > feast.hosted[g]) {
                     seeds++;
                 }
