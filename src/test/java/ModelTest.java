@@ -134,7 +134,14 @@ public final class ModelTest {
         StringBuilder b = new StringBuilder(s);
         for (int i = any(5) == 0 ? 2 : 1; i > 0; i--) {
             int at = any(b.length() + 1);
-            switch (any(5)) {
+            switch (any(6)) {
+                case 5: {
+                    // a digit more makes a NUMBER too large more often than not
+                    int digit = at;
+                    while (digit < b.length() && !Character.isDigit(b.charAt(digit))) digit++;
+                    b.insert(digit, any(10));
+                    break;
+                }
                 case 0: b.insert(at, pick(BITS)); break;
                 case 1: b.insert(at, " " + pick(BITS) + " "); break;
                 case 2: b.delete(at, Math.min(b.length(), at + 1 + any(4))); break;
@@ -179,8 +186,8 @@ public final class ModelTest {
         String name = CALLS[any(CALLS.length)];
         switch (name) {
             case "hall":
-                if (any(4) == 0) {
-                    text(maybeHarmed(hallText(), 900));
+                if (any(2) == 0) {
+                    text(any(2) == 0 ? harmed(hallText()) : maybeHarmed(hallText(), 900));
                     call("hall");
                     call("fault");
                 }
