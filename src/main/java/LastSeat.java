@@ -585,8 +585,9 @@ public final class LastSeat {
             int digits = 0;
             word = 0;
             number = 0;
-            for (; behind < tape.size; behind++) {
-                int c = tape.at(behind);
+            byte[] bytes = tape.bytes;
+            for (; behind < tape.size && behind < bytes.length; behind++) {
+                int c = bytes[behind];
                 if (c >= 'a' && c <= 'z') {
                     word = word * 32 + (c - ('a' - 1));
                     letters++;
@@ -650,15 +651,8 @@ public final class LastSeat {
             return true;
         }
 
-        boolean takeGuest(Hall hall) {
-            return takeNamed(hall.guestNamed(word));
-        }
-
-        boolean takeDish(Hall hall) {
-            return takeNamed(hall.dishNamed(word));
-        }
-
-        private boolean takeNamed(int which) {
+        /** Takes a NAME of which the HALL told that it is this GUEST or DISH (NONE: no such one). */
+        boolean takeNamed(int which) {
             if (!isName()) {
                 return refuse(FAULT_TOKEN);
             }
@@ -859,7 +853,7 @@ public final class LastSeat {
 
         private boolean readPays() {
             reader.step();
-            if (!reader.takeGuest(told)) {
+            if (!reader.takeNamed(told.guestNamed(reader.word))) {
                 return false;
             }
             int payer = reader.taken;
@@ -867,7 +861,7 @@ public final class LastSeat {
             if (paidFor != NONE && (paidFor == payer || told.payer[paidFor] != paidFor)) {
                 return reader.refuse(FAULT_NAME);
             }
-            if (!reader.takeGuest(told)) {
+            if (!reader.takeNamed(told.guestNamed(reader.word))) {
                 return false;
             }
             told.payer[reader.taken] = payer;
@@ -1037,11 +1031,12 @@ public final class LastSeat {
         }
 
         private void endFeast() {
+            int cost = hall.costOf(served);
             for (int g = 0; g < hall.guests; g++) {
                 if (!isSeated(g)) {
                     host = g;
                     hosted[g]++;
-                    settle(hall.payer[g]);
+                    settle(hall.payer[g], cost);
                 }
                 tired[g] = 0;
             }
@@ -1051,8 +1046,7 @@ public final class LastSeat {
             over++;
         }
 
-        private void settle(int payer) {
-            int cost = hall.costOf(served);
+        private void settle(int payer, int cost) {
             int part = Math.min(cost, coins[payer]);
             coins[payer] -= part;
             paid[payer] += part;
@@ -1452,7 +1446,7 @@ public final class LastSeat {
         }
 
         private boolean readGuestDeed() {
-            if (!reader.takeGuest(hall)) {
+            if (!reader.takeNamed(hall.guestNamed(reader.word))) {
                 return false;
             }
             if (!reader.isKey(SITS) && !reader.isKey(RISES)) {
@@ -1468,7 +1462,7 @@ public final class LastSeat {
             reader.step();
             boolean good;
             if (key == SERVE) {
-                good = reader.takeDish(hall);
+                good = reader.takeNamed(hall.dishNamed(reader.word));
             } else if (key == ROUND) {
                 good = reader.takeNumber(1, MOST_AT_ONCE);
             } else {
@@ -1715,26 +1709,19 @@ public final class LastSeat {
             if (bracket) {
                 return readCond(within + 1) && reader.takeSign(')');
             }
+            int sign = reader.kind == '<' || reader.kind == '>' ? reader.kind : '=';
             switch (key) {
                 case NOT: return readOne(within + 1) && told.add(NOT, 0, 0);
                 case BY:
-                case FOR: return reader.takeGuest(hall) && told.add(key, 0, reader.taken);
+                case FOR: return reader.takeNamed(hall.guestNamed(reader.word)) && told.add(key, 0, reader.taken);
                 case COINS:
                 case TIRED:
                 case HOSTED:
-                case NUMBER: return readCompare(key);
+                case NUMBER: return reader.takeSign(sign) && reader.takeNumber(0, 999) && told.add(key, sign, reader.taken);
                 default: return told.add(key, 0, 0);
             }
         }
 
-        private boolean readCompare(int key) {
-            int sign = reader.kind;
-            if (sign != '<' && sign != '=' && sign != '>') {
-                return reader.refuse(FAULT_TOKEN);
-            }
-            reader.step();
-            return reader.takeNumber(0, 999) && told.add(key, sign, reader.taken);
-        }
     }
 
     /** All that image() keeps in a place. */

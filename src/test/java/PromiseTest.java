@@ -11,6 +11,8 @@ public final class PromiseTest {
     private static final String TWO = "chairs 3;guest a 9 1 1 0;guest b 9 1 1 1;dish x 5;dish y 7;";
     /** Nobody else is there, so there is never a HOST. */
     private static final String ALONE = "chairs 5;guest solo 7 2 2 1;dish x 5;";
+    /** If a sits when x is SERVED, b, who has 1 coin, pays it and owes 1. */
+    private static final String POOR = "chairs 2;guest a 0 9 0 0;guest b 1 9 0 1;dish x 2;";
 
     private static String at = "";
 
@@ -180,6 +182,19 @@ public final class PromiseTest {
         for (int i = 4; i < 9; i++) due("guest(0, " + i + ")", 0, guestOr(x, 0, i));
         due("no SENTENCE", NONE, x.said(NONE));
         due("nothing to undo", NONE, x.undo());
+        x = hall(POOR);
+        x.serve(0);
+        x.sit(0);
+        x.rounds(1);
+        x.serve(0);
+        x.sit(0);
+        due("b owes", 3, x.guest(1, 7));
+        Check.tape(x, POOR);
+        x.hall();
+        for (int i = 0; i < 8; i++) due("now(" + i + ") behind a FEAST", i == 6 ? NONE : 0, x.now(i));
+        for (int g = 0; g < 2; g++) for (int i = 4; i < 9; i++) due("guest(" + g + ", " + i + ")", 0, guestOr(x, g, i));
+        due("coins as told", 1, guestOr(x, 1, 0));
+        due("every CHAIR is free", 0, x.sit(0));
         p4limit();
     }
 
@@ -202,6 +217,14 @@ public final class PromiseTest {
         Check.tape(x, "dish a 1;" + times(" ", 885) + "dish a 1;");
         due("a NAME told twice ahead of the most", -900, x.hall());
         due("fault", 3, x.fault());
+        Check.tape(x, "dish a 1;" + times(" ", 886) + "dish a 1;");
+        due("a NAME told twice at the most is not read", -901, x.hall());
+        due("fault", 1, x.fault());
+        String seven = "chairs 9;";
+        for (char c = 'a'; c < 'h'; c++) seven += "guest " + c + " 1 1 1 1;";
+        Check.tape(x, seven + "guest");
+        due("an eighth GUEST", -1 - 121, x.hall());
+        due("fault", 4, x.fault());
         Check.tape(x, times(" ", 940));
         due("blanks alone", -901, x.hall());
     }
@@ -382,7 +405,13 @@ public final class PromiseTest {
         x.sit(0);
         due("owes more", 189, x.guest(0, 7));
         due("paid in all", 10, x.now(7));
-        due("who pays nothing is HOST all the same", 2, x.guest(1, 6));
+        for (int i = 0; i < 1100; i++) {
+            x.serve(0);
+            x.sit(0);
+        }
+        due("99999 at most", 99999, x.guest(0, 7));
+        same("on the PLATE, too", "a stands at 0 owes 99999", plate(x, 0));
+        due("who pays nothing is HOST all the same", 1102, x.guest(1, 6));
     }
 
     private static void p10() {
@@ -423,6 +452,7 @@ public final class PromiseTest {
         due("as bits", 18, x.now(5));
         LastSeat y = new LastSeat();
         for (int c = 0; c < 6; c++) due("all without GUESTS", 0, y.hide(c));
+        due("CHAIR 0 is shown again", 0, y.show(0));
     }
 
     private static void p13() {
@@ -499,6 +529,19 @@ public final class PromiseTest {
     }
 
     private static void p15more() {
+        LastSeat y = hall(POOR);
+        y.serve(0);
+        y.sit(0);
+        due("b owes", 1, y.guest(1, 7));
+        due("undo", 1, y.undo());
+        for (int i = 4; i < 9; i++) due("guest(1, " + i + ")", 0, y.guest(1, i));
+        due("coins", 1, y.guest(1, 0));
+        due("SERVED", 1, y.now(2));
+        y.rounds(1);
+        due("one ROUND", 1, y.undo());
+        due("TIRED", 0, y.guest(0, 5));
+        book(y, "a sits;", 1);
+        due("one LINE", 1, y.undo());
         LastSeat x = hall(THREE);
         for (int i = 0; i < 6; i++) {
             x.sit(0);
@@ -557,6 +600,15 @@ public final class PromiseTest {
         due("one ROUND is left", NONE, z.next());
         z.rounds(1);
         due("no ROUND is left", NONE, z.next());
+        LastSeat w = hall(TWO);
+        for (int i = 0; i < 6; i++) w.rounds(60);
+        w.rounds(39);
+        w.rounds(1);
+        due("ROUND 400", 400, w.now(0));
+        due("NONE by ROUND 400", NONE, w.next());
+        due("nor by a trick", NONE, w.trick(0));
+        due("nor pushed but at once", 1, w.push(0));
+        due("and safe anywhere", 7, w.safe(0));
         due("the latest that was not NONE", 2, z.nextIn());
     }
 
@@ -752,6 +804,7 @@ public final class PromiseTest {
         x.sit(1);
         // bob sits at 0 and stays, if it is hidden; ann sits at 1 in ROUND 1: cy is HOST
         due("he stays", 2, gone(x, "\u0001\u0002"));
+        due("0 to 9 ROUNDS", 1023 - 480, gone(hall(ALONE), "\u0009\u0001"));
         x.hide(3);
         due("hidden already", 512 + 13, gone(x, "\u0001\u0000"));
         due("all stays", 8, x.now(5));
@@ -871,6 +924,8 @@ public final class PromiseTest {
         for (int g = 0; g < 3; g++) y.sit(g);
         due("6 by 4: 3", 3, meanOr(y, 0));
         due("by 2", 2, meanOr(y, 1));
+        due("of one alone", 1, meanOr(hall(ALONE), 1));
+        due("of one alone", 0, meanOr(hall(ALONE), 0));
     }
 
     private static void p33() {
@@ -913,29 +968,34 @@ public final class PromiseTest {
         return (lot >>> 8) % n;
     }
 
+    /** ROUNDS DRAWN are the same as the acts that are drawn. */
+    private static void drawnByHand(String text, int seed) {
+        LastSeat y = hall(text);
+        LastSeat z = hall(text);
+        y.drawn(9, seed);
+        lot = seed;
+        for (int i = 0; i < 9; i++) {
+            if (z.count(2) > 0 && draw(2) == 0) z.serve(draw(z.count(2)));
+            for (int g = 0; g < z.count(1); g++) {
+                int d = draw(8);
+                if (d == 0) z.sit(g);
+                if (d == 1) z.rise(g);
+            }
+            z.rounds(1);
+        }
+        for (int i = 0; i < 8; i++) due("now(" + i + ") by seed " + seed + " of " + text, z.now(i), y.now(i));
+    }
+
     private static void p35() {
         LastSeat x = hall(THREE);
         due("drawn(0, 1)", NONE, x.drawn(0, 1));
         due("drawn(61, 1)", NONE, x.drawn(61, 1));
         due("drawn(60, 1)", 60, x.drawn(60, 1));
         due("ROUND", 60, x.now(0));
-        // the same by hand, by acts
-        for (int seed = -5; seed < 40; seed++) {
-            LastSeat y = hall(THREE);
-            LastSeat z = hall(THREE);
-            y.drawn(9, seed);
-            lot = seed;
-            for (int i = 0; i < 9; i++) {
-                if (draw(2) == 0) z.serve(draw(2));
-                for (int g = 0; g < 3; g++) {
-                    int d = draw(8);
-                    if (d == 0) z.sit(g);
-                    if (d == 1) z.rise(g);
-                }
-                z.rounds(1);
-            }
-            for (int i = 0; i < 8; i++) due("now(" + i + ") by seed " + seed, z.now(i), y.now(i));
+        for (String text : new String[] {THREE, TWO, POOR, ALONE, "guest a 1 9 1 0;guest b 1 8 2 3;guest c 1 7 1 1;"}) {
+            for (int seed = -5; seed < 40; seed++) drawnByHand(text, seed);
         }
+        due("drawn(1, 1)", 1, hall(THREE).drawn(1, 1));
         for (int i = 0; i < 5; i++) x.rounds(60);
         due("40 are left", 40, x.drawn(60, 1));
         due("none is left", 0, x.drawn(60, 1));
@@ -955,11 +1015,20 @@ public final class PromiseTest {
                 if (y.guest(g, 6) > 0) many++;
             }
             due("odds of " + g, many, x.odds(g, 30, Integer.MAX_VALUE - 10));
+            int one = 0;
+            for (int i = 0; i < 30; i++) one += x.odds(g, 1, Integer.MAX_VALUE - 10 + i);
+            due("odds of " + g + ", one by one", many, one);
         }
         due("all stays", 0, x.now(0) + x.now(4));
         due("nothing to undo", NONE, x.undo());
         x.rounds(3);
         due("who was HOST is not by that", hostSeeds(), x.odds(2, 30, 9));
+        for (int seed = 0; seed < 300; seed++) {
+            LastSeat y = hall(THREE);
+            LastSeat z = hall(THREE);
+            z.drawn(20, seed);
+            due("20 ROUNDS by seed " + seed, z.guest(0, 6) > 0 ? 1 : 0, y.odds(0, 1, seed));
+        }
         for (int i = 0; i < 7; i++) x.rounds(60);
         due("no ROUND is left", 0, x.odds(2, 30, 9));
     }
@@ -993,6 +1062,14 @@ public final class PromiseTest {
         due("all of it", NONE, book(x, "bob sits;\n", 0) == 0 ? book(x, "show 3;ann rises;round 60;", 1) : 99);
         due("ROUND", 60, x.now(0));
         due("an empty one", NONE, book(x, "", 1));
+        LastSeat y = hall(THREE);
+        due("each deed", NONE, book(y, "hide 1;ann sits;ann rises;show 1;hide 3;bob sits;serve ale;", 1));
+        due("CHAIR 3 is hidden", 8, y.now(5));
+        due("bob sits", 2, y.now(1));
+        due("ale", 2, y.now(2));
+        due("CHAIR 0", NONE, book(y, "bob rises;show 3;hide 0;", 1));
+        due("is hidden", 1, y.now(5));
+        due("nobody sits", 0, y.now(1));
         due("40 LINES", 1, book(hall(THREE), times("ann sits;", 40), 0));
         p37faults();
     }
@@ -1131,6 +1208,13 @@ public final class PromiseTest {
         due("for cy", 4, saidOf(x, "for cy"));
         due("coins", 5, saidOf(x, "coins > 20"));
         due("coins", 2, saidOf(x, "coins < 21"));
+        due("coins", 0, saidOf(x, "coins < 20"));
+        due("coins", 4, saidOf(x, "coins > 50"));
+        due("number", 1, saidOf(x, "not number > 0"));
+        LastSeat y = hall(POOR);
+        y.serve(0);
+        y.sit(0);
+        due("ruined by 1", 2, saidOf(y, "ruined"));
         due("coins", 1, saidOf(x, "coins = 50"));
         due("number", 6, saidOf(x, "not number = 0"));
         due("and binds", 5, saidOf(x, "number = 0 or number = 2 and coins > 99"));
