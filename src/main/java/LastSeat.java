@@ -1046,12 +1046,14 @@ public final class LastSeat {
             over++;
         }
 
+        /** Calls nothing: it is the eighth call deep already, which is as deep as calls may go. */
         private void settle(int payer, int cost) {
-            int part = Math.min(cost, coins[payer]);
+            int part = cost < coins[payer] ? cost : coins[payer];
+            int owes = owed[payer] + cost - part;
             coins[payer] -= part;
             paid[payer] += part;
             paidInAll += part;
-            owed[payer] = Math.min(MOST_OWED, owed[payer] + cost - part);
+            owed[payer] = owes < MOST_OWED ? owes : MOST_OWED;
         }
 
         /** A ROUND in which one GUEST (or NONE) does not sit of himself; true: a FEAST is over by it. */

@@ -2,6 +2,7 @@ import java.lang.management.ManagementFactory;
 import java.lang.reflect.Field;
 import java.lang.reflect.Method;
 import java.lang.reflect.Modifier;
+import java.nio.file.DirectoryStream;
 import java.nio.file.Files;
 import java.nio.file.Path;
 import java.util.Arrays;
@@ -119,8 +120,21 @@ public final class RulesTest {
         Check.due("calls took " + took + " bytes (" + sum + ")", true, took < 4000);
     }
 
+    /** Each promise has a boundary test that bears its number. */
+    private static void theEdges() throws Exception {
+        Set<Integer> seen = new TreeSet<>();
+        try (DirectoryStream<Path> tests = Files.newDirectoryStream(Path.of("src/test/java"), "*EdgeTest.java")) {
+            for (Path test : tests) {
+                Matcher m = Pattern.compile("static void p(\\d\\d)_\\w+\\(\\)").matcher(Files.readString(test));
+                while (m.find()) seen.add(Integer.parseInt(m.group(1)));
+            }
+        }
+        for (int i = 1; i <= 43; i++) Check.due("promise " + i + " has a boundary test", true, seen.contains(i));
+    }
+
     public static void main(String[] args) throws Exception {
         theFace();
+        theEdges();
         theWords(Files.readAllLines(Path.of("src/main/java/LastSeat.java")).stream().collect(Collectors.joining("\n")));
         theRoom();
         Check.finish();

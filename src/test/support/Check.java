@@ -19,6 +19,10 @@ public final class Check {
         return wrong;
     }
 
+    static int asked() {
+        return asked;
+    }
+
     /** A text's bytes as the numbers that feed() takes, twenty bytes a row, zeros behind. */
     static int[] numbers(String text) {
         int[] n = new int[(text.length() + 19) / 20 * 5];
