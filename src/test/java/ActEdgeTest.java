@@ -1,3 +1,6 @@
+import java.util.ArrayList;
+import java.util.List;
+
 /** Boundary cases of what can be seen and done in a HALL: promises 6 to 15. */
 public final class ActEdgeTest extends Ask {
     private static final int[] FAR = {Integer.MIN_VALUE, -100, -2, -1, 9, 10, 31, 32, 33, 64, 1000, Integer.MAX_VALUE};
@@ -235,27 +238,48 @@ public final class ActEdgeTest extends Ask {
         due("b was not", 0, x.guest(1, 6));
     }
 
-    /** "OWES (99999 at most)", within the calls that an object is used for. */
-    static void p09_owes99999AtMost() {
-        LastSeat x = hall("chairs 2;guest a 0 0 0 0;guest b 0 9 0 1;" + dishes(6, 99) + "pays a b;");
-        for (int i = 0; i < 7; i++) x.drawn(60, i);
-        int owed = x.guest(0, 7);
-        String feast = "serve m;serve n;serve o;serve p;serve q;serve r;a sits;";
-        int[] numbers = Check.numbers(feast.repeat(5) + blanks(5));
-        for (int k = 0; owed < 99999; k++) {
-            for (int i = 0; i < numbers.length; i += 5) {
-                x.feed(numbers[i], numbers[i + 1], numbers[i + 2], numbers[i + 3], numbers[i + 4]);
-            }
-            due("book " + k, NONE, x.book(1));
-            owed = Math.min(99999, owed + 5 * 594);
-            due("owed behind book " + k, owed, x.guest(0, 7));
+    /** LINES of FEASTS in which DISHES for so much are SERVED: m to q for 99 each, r for 98. */
+    private static List<String> feastsFor(int much) {
+        int by98 = (99 - much % 99) % 99;
+        int by99 = (much + by98) / 99 - by98;
+        List<String> lines = new ArrayList<>();
+        while (by99 > 0 || by98 > 0) {
+            for (char dish = 'm'; dish <= 'q' && by99 > 0; dish++, by99--) lines.add("serve " + dish + ";");
+            if (by98-- > 0) lines.add("serve r;");
+            lines.add("a sits;");
         }
-        due("99999", 99999, x.guest(0, 7));
+        return lines;
+    }
+
+    /** Lives LINES in as few calls as there can be: forty a BOOK, filled up so that no end() is due; how many calls. */
+    private static int live(LastSeat x, List<String> lines) {
+        int calls = 0;
+        for (int from = 0; from < lines.size(); from += 40) {
+            String text = String.join("", lines.subList(from, Math.min(from + 40, lines.size())));
+            int[] n = Check.numbers(text + blanks(19 - (text.length() + 19) % 20));
+            for (int i = 0; i < n.length; i += 5, calls++) x.feed(n[i], n[i + 1], n[i + 2], n[i + 3], n[i + 4]);
+            due("a BOOK of FEASTS", NONE, x.book(1));
+            calls++;
+        }
+        return calls;
+    }
+
+    /** "OWES (99999 at most)", within the 512 calls that an object is used for. */
+    static void p09_owes99999AtMost() {
+        LastSeat x = hall("chairs 2;guest a 0 0 0 0;guest b 0 9 0 1;" + dishes(5, 99) + "dish r 98;pays a b;");
+        for (int i = 0; i < 7; i++) x.drawn(60, i);
+        int calls = 20 + live(x, feastsFor(99998 - x.guest(0, 7)));
+        due("99998", 99998, x.guest(0, 7));
+        same("on the PLATE", "a stands at 0 owes 99998", plate(x, 0));
+        x.serve(5);
+        x.sit(0);
+        due("not 100096", 99999, x.guest(0, 7));
         x.serve(0);
         x.sit(0);
         due("and no more", 99999, x.guest(0, 7));
-        same("on the PLATE", "a stands at 0 owes 99999", plate(x, 0));
         due("nothing was paid", 0, x.now(7));
+        due("the calls so far, " + calls + ", and what is asked here", true, calls + 40 <= 512);
+        same("on the PLATE", "a stands at 0 owes 99999", plate(x, 0));
     }
 
     /** "All rise where they are, nobody is TIRED, nothing is SERVED any more" */
