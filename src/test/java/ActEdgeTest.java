@@ -50,6 +50,21 @@ public final class ActEdgeTest extends Ask {
         due("cy", 2, x.guest(2, 9));
     }
 
+    /** "5 how TIRED": each by himself, from the first to the last. */
+    static void p06_eachByHimself() {
+        LastSeat x = hall(FULL);
+        x.sit(0);
+        x.rounds(1);
+        x.sit(6);
+        x.rounds(1);
+        int[] tired = {0, 2, 2, 2, 2, 2, 1};
+        for (int g = 0; g < 7; g++) {
+            due("TIRED " + g, tired[g], x.guest(g, 5));
+            due("he sits " + g, g == 0 || g == 6 ? 1 : 0, x.guest(g, 4));
+            due("CHAIR " + g, g, x.guest(g, 3));
+        }
+    }
+
     /** "NONE, too: no such ones." */
     static void p07_noSuchOnes() {
         LastSeat x = hall(THREE);
@@ -80,6 +95,20 @@ public final class ActEdgeTest extends Ask {
         due("all are there still", 127, x.chair(6, 2));
         x.rise(6);
         due("nobody sits", NONE, x.chair(6, 1));
+    }
+
+    /** Each GUEST at a CHAIR of his own; none that is not there is at any. */
+    static void p07_eachAtHisOwn() {
+        LastSeat x = hall(FULL);
+        x.sit(4);
+        x.sit(6);
+        for (int c = 0; c < 9; c++) {
+            due("who is at " + c, c < 7 ? 1 << c : 0, x.chair(c, 2));
+            due("who sits at " + c, c == 4 || c == 6 ? c : NONE, x.chair(c, 1));
+        }
+        LastSeat y = hall("chairs 9;guest a 0 9 0 3;");
+        for (int c = 0; c < 9; c++) due("who is at " + c, c == 3 ? 1 : 0, y.chair(c, 2));
+        due("without GUESTS", 0, new LastSeat().chair(0, 2));
     }
 
     /** "0 hidden (1, 0)" */
@@ -331,6 +360,12 @@ public final class ActEdgeTest extends Ask {
         due("CHAIR 1", 1, x.guest(0, 3));
         due("TIRED", 1, x.guest(0, 5));
         due("hide(1)", 0, x.hide(1));
+        LastSeat y = hall(FULL);
+        y.sit(0);
+        y.sit(6);
+        due("rise(6)", 0, y.rise(6));
+        due("CHAIR 0 is not free", 3, y.hide(0));
+        due("CHAIR 6 is", 0, y.hide(6));
     }
 
     static void p11_noSuchOne() {

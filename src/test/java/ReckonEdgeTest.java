@@ -164,6 +164,15 @@ public final class ReckonEdgeTest extends Ask {
         due("no FEAST is over", 0, x.now(4));
     }
 
+    /** "if it alone was hidden besides": it is so behind a FEAST, too. */
+    static void p26_hiddenBehindAFeast() {
+        LastSeat x = hall("chairs 6;guest a 0 1 1 0;guest b 0 1 0 4;guest c 0 9 0 5;");
+        // in each ROUND a sits, at 1 and at 2, and b at 4: c is HOST; by 2 a can't sit in ROUND 2, by 4 b never
+        due("b", 4, gone(x, 2, 2));
+        due("a", 16, gone(x, 2, 1));
+        due("nobody", 512 + 32 + 8 + 2 + 1, gone(x, 2, 0));
+    }
+
     /** "ROUND 400 no matter." */
     static void p26_round400() {
         LastSeat x = hall("chairs 4;guest a 0 9 0 0;");

@@ -264,6 +264,14 @@ public final class SeerEdgeTest extends Ask {
         due("ann sits at 1 in ROUND 1: bob", 0, x.trick(1));
     }
 
+    /** "now": what another call tried ahead of it leaves no trace. */
+    static void p19_behindOtherTries() {
+        LastSeat x = hall(BY_ONE);
+        due("a sits at 1, not by 1", 512 + 61, gone(x, 1, 1));
+        due("b, by CHAIR 1 or 2", 1, x.trick(2));
+        due("CHAIR 1", 2, x.tricking());
+    }
+
     /** "NEXT .. by ROUND 400" */
     static void p19_byRound400() {
         LastSeat x = hall(TWO);
@@ -359,6 +367,14 @@ public final class SeerEdgeTest extends Ask {
         due("c", 4, x.pushing());
     }
 
+    /** "now": what another call tried ahead of it leaves no trace. */
+    static void p21_behindOtherTries() {
+        LastSeat x = hall("chairs 4;guest b 0 1 0 3;guest a 0 1 0 1;guest c 0 9 0 2;");
+        due("a sits alone, by 3", 8, gone(x, 1, 2));
+        due("b, by all others", 2, x.push(0));
+        due("a and c", 6, x.pushing());
+    }
+
     /** "HOST of this FEAST, at once or NEXT": at ROUND 400 only at once. */
     static void p21_atOnce() {
         LastSeat x = hall(FULL);
@@ -427,6 +443,9 @@ public final class SeerEdgeTest extends Ask {
         LastSeat y = hall("chairs 3;guest a 9 1 1 0;guest b 9 3 0 1;guest c 9 9 0 2;");
         y.sit(2);
         due("from 2 he goes on to 0", 7, y.safe(0));
+        LastSeat z = hall("chairs 3;guest c 9 9 0 2;guest b 9 3 0 1;guest a 9 1 0 0;");
+        z.sit(0);
+        due("the last GUEST likewise", 3, z.safe(2));
     }
 
     /** "NEXT .. by ROUND 400": nobody is, then. */

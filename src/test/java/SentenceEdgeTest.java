@@ -239,6 +239,17 @@ public final class SentenceEdgeTest extends Ask {
         }
     }
 
+    /** Each as TIRED as he is himself: one who sits grows no more so. */
+    static void p40_eachAsTiredAsHeIs() {
+        LastSeat x = hall("chairs 4;guest a 0 1 0 0;guest b 0 2 0 3;guest c 0 9 0 1;");
+        x.hide(3);
+        x.rounds(2);
+        due("a sits", 1, saidOf(x, "seated"));
+        due("a and b", 3, saidOf(x, "weary"));
+        due("a", 1, saidOf(x, "tired = 1"));
+        due("b and c", 6, saidOf(x, "tired = 2"));
+    }
+
     /** "'by' GUEST (at one CHAIR, himself, too)" */
     static void p40_by() {
         LastSeat x = hall(THREE);
@@ -324,6 +335,13 @@ public final class SentenceEdgeTest extends Ask {
         due("not of a bracket", 127, saidOf(x, "not (number > 0 and number = 0)"));
         due("twenty", 127, saidOf(x, "weary" + times(" or weary", 18) + " or number<7"));
         due("ten brackets", 3, saidOf(x, "(number<2)" + times("and(number<2)", 9)));
+        due("not behind another", 5, saidOf(x, "number < 3 and not number = 1"));
+        due("or within and", 0, saidOf(x, "number = 5 and (number = 1 or number = 2)"));
+        due("a sign behind others", 12, saidOf(x, "seated or number > 1 and number < 4"));
+        LastSeat y = hall(THREE);
+        due("coins behind others", 5, saidOf(y, "seated or coins > 20"));
+        due("tired behind others", 7, saidOf(y, "seated or tired < 1"));
+        due("hosted behind others", 7, saidOf(y, "seated or hosted < 1"));
         due("to the right", 2, saidOf(x, "number<3 and (number<2 and (number>0 and (number<9 or weary)))"));
     }
 

@@ -163,6 +163,54 @@ public final class TapeEdgeTest extends Ask {
         due("of two", 2, x.said(NONE));
     }
 
+    private static void fed(LastSeat x, String text, int n) {
+        Check.tape(x, text);
+        due("end(" + n + ")", true, x.end(n));
+    }
+
+    /** "its first n bytes alone": a WORD or NUMBER does not go on into what was cut. */
+    static void p03_cutWithinAToken() {
+        LastSeat x = hall(THREE);
+        fed(x, "seatedseatedseated", 6);
+        due("seated", 1, x.sentence());
+        fed(x, "seated7", 6);
+        due("seated", 1, x.sentence());
+        fed(x, "number < 2999", 10);
+        due("number < 2", 1, x.sentence());
+        due("of two", 2, x.said(NONE));
+        fed(x, "by annabel", 6);
+        due("by ann", 1, x.sentence());
+        fed(x, "seated or weary", 8);
+        due("the end is at 8: 'o' can't come at 7", -8, x.sentence());
+        fed(x, "chairs 3;dish", 9);
+        due("chairs 3;", 1, x.hall());
+        fed(x, "chairs 3", 6);
+        due("the end at 6", -7, x.hall());
+        fed(x, "dish dishes 1", 11);
+        due("the end at 11", -12, x.hall());
+        fed(x, "round 60;round", 9);
+        due("round 60;", NONE, x.book(0));
+        fed(x, "round 60", 7);
+        due("the end at 7", -9, x.book(0));
+        fed(x, "\u0001\u0000\u0000", 2);
+        due("two bytes", 512 + 7, x.gone());
+        fed(x, "\u0000\u0001\u0001", 2);
+        due("a pair", 1, x.proud());
+    }
+
+    /** The same at the very end of a full tape, and of a shorter one behind a longer one. */
+    static void p03_aLongerTapeAheadOfAShorterOne() {
+        LastSeat x = hall(THREE);
+        Check.tape(x, times("a", 940));
+        due("a WORD of 940 letters", -1, x.sentence());
+        Check.tape(x, "weary");
+        due("weary", 1, x.sentence());
+        Check.tape(x, times("9", 940));
+        due("a NUMBER of 940 digits", -1, x.hall());
+        fed(x, "chairs 9;9999", 8);
+        due("the end at 8", -9, x.hall());
+    }
+
     /** "NONE for another what" */
     static void p43_anotherWhat() {
         LastSeat x = hall(THREE);
