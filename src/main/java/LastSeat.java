@@ -1723,7 +1723,6 @@ public final class LastSeat {
                 default: return told.add(key, 0, 0);
             }
         }
-
     }
 
     /** All that image() keeps in a place. */

@@ -14,24 +14,40 @@ import java.util.stream.Collectors;
 
 /** What can be seen of LANGUAGE.md's rules from outside: the face, the source's words, the room that calls take. */
 public final class RulesTest {
-    private static final String FACE = "feed/5 end/1 hall/0 fault/0 guest/2 chair/2 now/1 sit/1 rise/1 serve/1 hide/1 "
-            + "show/1 rounds/1 undo/0 next/0 nextIn/0 linger/1 trick/1 tricking/0 push/1 pushing/0 safe/1 hosts/1 "
-            + "hostAt/1 gone/0 when/2 menu/0 menuOf/0 proud/0 watch/0 mean/1 plate/1 byteAt/1 drawn/2 odds/3 book/1 "
-            + "told/1 sentence/0 said/1 image/1 restore/1 count/1";
+    /** The methods of the document's face, each as "int feed(int,int) throws X". */
+    private static Set<String> toldFace(String doc) {
+        Set<String> all = new TreeSet<>();
+        Matcher m = Pattern.compile("    public (\\w+ \\w+)\\(([^)]*)\\)( throws \\w+)?;").matcher(doc);
+        while (m.find()) {
+            String types = m.group(2).replaceAll("(\\w+) \\w+", "$1").replace(" ", "");
+            all.add(m.group(1) + "(" + types + ")" + (m.group(3) == null ? "" : m.group(3)));
+        }
+        return all;
+    }
 
-    private static void theFace() {
+    private static String signOf(Method m) {
+        String types = Arrays.stream(m.getParameterTypes()).map(Class::getSimpleName).collect(Collectors.joining(","));
+        String thrown = Arrays.stream(m.getExceptionTypes()).map(t -> " throws " + t.getSimpleName()).collect(Collectors.joining());
+        return m.getReturnType().getSimpleName() + " " + m.getName() + "(" + types + ")" + thrown;
+    }
+
+    private static void theFace(String doc) {
         Class<?> c = LastSeat.class;
         Check.due("public final", true, Modifier.isPublic(c.getModifiers()) && Modifier.isFinal(c.getModifiers()));
         Set<String> open = new TreeSet<>();
         Set<String> names = new TreeSet<>();
         for (Method m : c.getDeclaredMethods()) {
             if (!Modifier.isPrivate(m.getModifiers())) {
-                open.add(m.getName() + "/" + m.getParameterCount());
+                Check.due(m + " is public and of an object", Modifier.PUBLIC, m.getModifiers());
+                open.add(signOf(m));
                 names.add(m.getName());
             }
         }
-        Check.due("the methods " + open, true, open.equals(new TreeSet<>(Arrays.asList(FACE.split(" ")))));
+        Check.due("calls of the document", 42, toldFace(doc).size());
+        Check.due("the methods " + open, true, open.equals(toldFace(doc)));
         Check.due("constructors", 1, c.getDeclaredConstructors().length);
+        Check.due("a constructor without arguments, for all", 1, c.getConstructors().length);
+        Check.due("NONE", -1, LastSeat.NONE);
         for (Field f : c.getDeclaredFields()) {
             Check.due("field " + f.getName(), f.getName().equals("NONE"), !Modifier.isPrivate(f.getModifiers()));
         }
@@ -133,7 +149,7 @@ public final class RulesTest {
     }
 
     public static void main(String[] args) throws Exception {
-        theFace();
+        theFace(Files.readString(Path.of("../shared/DOC.md")));
         theEdges();
         theWords(Files.readAllLines(Path.of("src/main/java/LastSeat.java")).stream().collect(Collectors.joining("\n")));
         theRoom();
